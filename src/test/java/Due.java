@@ -1,0 +1,65 @@
+/** Counts the answers of one test that are not as due, and feeds texts. */
+final class Due {
+    private static final int WRONG_SHOWN = 40;
+
+    private final String test;
+    private String part = "";
+    private int wrong = 0;
+    private int asked = 0;
+
+    Due(String test) {
+        this.test = test;
+    }
+
+    /** Names what the next answers are about. */
+    void part(String name) {
+        part = name;
+    }
+
+    void is(String call, long got, long want) {
+        asked++;
+        if (got != want) {
+            wrong++;
+            if (wrong <= WRONG_SHOWN) {
+                System.out.println(test + ", " + part + ": " + call + " answered " + got + ", due is " + want);
+            }
+        }
+    }
+
+    void is(String call, boolean got, boolean want) {
+        is(call, got ? 1 : 0, want ? 1 : 0);
+    }
+
+    boolean isWrong() {
+        return wrong > 0;
+    }
+
+    /** Ends the test: with exit code 1 if an answer was wrong, or none was asked for. */
+    void close() {
+        System.out.println(test + ": " + asked + " answers, " + wrong + " wrong");
+        if (wrong > 0 || asked == 0) {
+            System.exit(1);
+        }
+    }
+
+    /** Puts the bytes of a text behind the TAPE and cuts it to them. */
+    static void tape(UnsaidWords x, String text) {
+        int had = 0;
+        for (int i = 0; i < text.length(); i += 20) {
+            int[] four = new int[5];
+            for (int j = 0; j < 20; j++) {
+                int sign = i + j < text.length() ? text.charAt(i + j) : ' ';
+                four[j / 4] = four[j / 4] << 8 | sign & 255;
+            }
+            had = x.feed(four[0], four[1], four[2], four[3], four[4]);
+        }
+        if (had != UnsaidWords.NONE) {
+            x.end(had - (20 - text.length() % 20) % 20);
+        }
+    }
+
+    static int tell(UnsaidWords x, int k, String text) {
+        tape(x, text);
+        return x.text(k);
+    }
+}
