@@ -62,4 +62,40 @@ final class Due {
         tape(x, text);
         return x.text(k);
     }
+
+    /** A new object with WORDS of these LONGS, and at each of these PLACES a PERSON. */
+    static UnsaidWords made(int[] longs, int... places) {
+        UnsaidWords x = new UnsaidWords();
+        for (int lasting : longs) {
+            x.word(lasting);
+        }
+        for (int place : places) {
+            x.person(place);
+        }
+        return x;
+    }
+
+    /** Each PERSON is taught a set of WORDS. */
+    static void teach(UnsaidWords x, int... tongues) {
+        for (int p = 0; p < tongues.length; p++) {
+            for (int w = 0; w < 14; w++) {
+                if ((tongues[p] >> w & 1) == 1) {
+                    x.teach(p, w);
+                }
+            }
+        }
+    }
+
+    /** WORDS of a set are made to LAPSE by a day, the others not; THE LAW is empty then. */
+    static void lapse(UnsaidWords x, int set) {
+        StringBuilder law = new StringBuilder();
+        for (int w = 0; w < 14; w++) {
+            if ((set >> w & 1) == 1) {
+                law.append("keep 1 when word=").append(w).append(";");
+            }
+        }
+        tell(x, 1, law + "keep 9999;");
+        x.days(1);
+        tell(x, 1, "");
+    }
 }
