@@ -14,6 +14,7 @@ public final class DeedTest {
         promise12();
         walks();
         chat();
+        chatBelow();
         lapses();
         bookIsFull();
         promise39();
@@ -120,6 +121,13 @@ public final class DeedTest {
         x.set(2, 1, 1);
         x.say(1, 0);
         DUE.is("half of 1", x.of(1, 1), 0);
+        UnsaidWords y = Due.made(new int[] {1, 1}, 2, 2, 2, 2);
+        Due.teach(y, 0, 2, 2, 2);
+        y.kin(0, 1, true);
+        y.set(2, 0, 8);
+        DUE.is("say", y.say(3, 1), 1);
+        DUE.is("UNSAID of WORD 0", y.of(0, 1), 4);
+        DUE.is("TONGUE of PERSON 0", y.who(0, 1), 2);
     }
 
     private static void promise9() {
@@ -305,6 +313,24 @@ public final class DeedTest {
         DUE.is("he who says it", x.book(due, 2), 1);
     }
 
+    private static void chatBelow() {
+        DUE.part("promise 12, below CHAT");
+        UnsaidWords x = Due.made(new int[] {1, 1}, 0);
+        Due.teach(x, 3);
+        int state = 0;
+        while ((drawn(state & 0xFFFFFFFFL) >> 8) % 1000 != 500) {
+            state++;
+        }
+        x.set(0, 0, 500);
+        x.state(state);
+        x.days(1);
+        DUE.is("a DRAW of CHAT: nothing", x.look(5), 2);
+        x.set(0, 0, 501);
+        x.state(state);
+        x.days(1);
+        DUE.is("below CHAT: WORD 0, of several the least", x.book(2, 3), 0);
+    }
+
     private static void lapses() {
         DUE.part("promise 12, LAPSED");
         UnsaidWords x = Due.made(new int[] {1, 1, 1}, 0, 0);
@@ -481,6 +507,7 @@ public final class DeedTest {
         Due.teach(x, 7, 3, 1);
         x.kin(0, 1, true);
         x.miles(0, 1, 77);
+        x.miles(8, 9, 66);
         x.set(0, 0, 400);
         x.set(1, 1, 33);
         x.set(2, 2, 44);
@@ -527,6 +554,7 @@ public final class DeedTest {
         x.kin(0, 1, false);
         x.kin(0, 2, true);
         x.miles(0, 1, 1);
+        x.miles(8, 9, 1);
         x.set(0, 0, 900);
         x.set(1, 1, 1);
         x.set(2, 0, 1);
@@ -558,6 +586,7 @@ public final class DeedTest {
         DUE.is("AT", x.who(2, 0), 5);
         DUE.is("TONGUE", x.who(2, 1), 1);
         DUE.is("MILES", x.round(0, 2, 0), 77);
+        DUE.is("MILES", x.round(0, 768, 0), 76);
         DUE.is("TALK", x.spoke(true), 3);
         DUE.is("MEANINGS", x.wording(0, 1), 1);
         DUE.is("WALKS, THE LAW", x.goes(2, 1), 2);

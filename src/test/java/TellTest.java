@@ -106,7 +106,9 @@ public final class TellTest {
         for (int i = 3; i < 10; i++) {
             DUE.is("person(0)", x.person(0), i);
         }
+        x.move(2, 8);
         DUE.is("the eleventh", x.person(0), -1);
+        DUE.is("none was told: look(12)", x.look(12), 1);
         DUE.is("look(1)", x.look(1), 10);
     }
 
@@ -382,6 +384,8 @@ public final class TellTest {
         fault(1, "keep 1 when (1=1)and(1=1)and(1=1)and(1=1)and(1=1)and(1=1)and(1=1)and(1=1)and(1=1);", 0, 1);
         fault(1, "keep 1 when (((((((( not", 3, 21);
         fault(1, "on 1;", 1, 0);
+        fault(1, "keep on;", 1, 5);
+        fault(1, "keep when;", 1, 5);
         fault(1, "keep 1", 1, 6);
         String eight = "keep 1;hear 1;tire 1;keep 1;hear 1;tire 1;keep 1;hear 1;";
         fault(1, eight + eight, 0, 16);
@@ -440,6 +444,15 @@ public final class TellTest {
         fault(0, "Means 0;", 1, 0);
         fault(0, "meansX 0;", 1, 0);
         fault(0, "mean 0;", 1, 0);
+        for (String letter : new String[] {"a", "z", "A", "Z"}) {
+            fault(0, "means" + letter + " 0;", 1, 0);
+        }
+        for (String none : new String[] {"@", "[", "`", "{", "\u007f", "\u00e9"}) {
+            fault(0, "means" + none + " 0;", 1, 5);
+        }
+        for (String none : new String[] {"/", ":", "!", "\u000b", "\u000c", "\u00a0"}) {
+            fault(0, "means 0" + none + ";", 1, 7);
+        }
         fault(0, "means 0 orr 1;", 1, 8);
         fault(0, "means 0 o r 1;", 1, 8);
         fault(0, "means 0.", 1, 7);

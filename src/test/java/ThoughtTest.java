@@ -63,6 +63,33 @@ public final class ThoughtTest {
         tell(x, 1, "keep 1;");
         DUE.is("the least of a DAY first", x.goes(5, 1), 0);
         DUE.is("its DAY", x.goes(5, 2), 1);
+        UnsaidWords y = Due.made(new int[] {9, 6}, 0, 0);
+        Due.teach(y, 3, 3);
+        tell(y, 1, "keep long;hear 1;");
+        DUE.is("LONG in thought", y.goes(20, 1), 1);
+        DUE.is("its DAY", y.goes(20, 2), 5);
+        tell(y, 2, "on 1 0 says 1;");
+        y.set(1, 0, 0);
+        DUE.is("tire is LONG in thought, BREATH 5", y.goes(20, 2), 5);
+        y.set(1, 0, 1);
+        DUE.is("BREATH 6 is enough", y.goes(20, 2), 6);
+        nobodyChats();
+    }
+
+    /** The STATE is such that who draws below 1 would speak. */
+    private static void nobodyChats() {
+        UnsaidWords x = Due.made(new int[] {1}, 0, 0);
+        Due.teach(x, 1, 1);
+        tell(x, 1, "keep 2;hear 0;");
+        int state = 0;
+        while (((state * 1664525 + 1013904223) >>> 8) % 1000 != 0) {
+            state++;
+        }
+        x.days(1);
+        x.set(0, 0, 1);
+        x.state(state);
+        DUE.is("nobody chats", x.goes(1, 0), 1);
+        DUE.is("somebody does", x.days(1), 0);
     }
 
     private static void promise22() {
@@ -247,6 +274,7 @@ public final class ThoughtTest {
         x.miles(6, 4, 0);
         round(x, 16 | 32 | 64, 0, 4, 6, 5);
         round(x, 1 | 2 | 4 | 8 | 16 | 32, 23, 4, 0, 2, 1, 3, 5);
+        round(x, 1 | 32, 10, 5, 0);
         for (int bad : new int[] {127, 1023, 1024, 1025, -1, MIN, MAX, 2 | 1 << 30}) {
             DUE.is("round(0, " + bad + ", 0)", x.round(0, bad, 0), -1);
         }
@@ -281,6 +309,9 @@ public final class ThoughtTest {
         DUE.is("one", x.quarrel(0, 2, 1, 2), 8);
         x.set(2, 3, 0);
         DUE.is("a sum of 0", x.quarrel(0, 2, 1, 1), 0);
+        x.teach(2, 0);
+        DUE.is("WORD 0", x.quarrel(0, 2, 1, 1), 99);
+        DUE.is("WORD 0", x.quarrel(0, 2, 1, 2), 1);
         int[][] bad = {{0, 0, 1, 0}, {-1, 0, 1, 0}, {0, -1, 1, 0}, {3, 0, 1, 0}, {0, 3, 1, 0}, {0, 1, 0, 0},
             {0, 1, 7, 0}, {0, 1, -1, 0}, {0, 1, MAX, 0}, {0, 1, 1, 3}, {0, 1, 1, -1}, {MIN, 1, 1, 0}, {0, 1, 7, 1}};
         for (int[] b : bad) {
@@ -333,6 +364,11 @@ public final class ThoughtTest {
         x.move(1, 3);
         DUE.is("AT now", x.spoke(true), 1);
         DUE.is("fewer than two", x.spoke(false), -1);
+        x.talk(-1, -1);
+        x.talk(3, -1);
+        x.talk(0, -1);
+        DUE.is("all of it", x.spoke(true), 7);
+        x.talk(2, 0);
         x.talk(1, 3);
         DUE.is("nobody", x.spoke(true), 0);
         DUE.is("nobody", x.spoke(false), -1);
@@ -459,6 +495,7 @@ public final class ThoughtTest {
     private static void promise35() {
         DUE.part("promise 35");
         verse(new UnsaidWords(), 0, 0);
+        verse(Due.made(new int[] {1}), 1, 1);
         UnsaidWords x = Due.made(new int[] {4, 9, 5, 4, 2});
         verse(x, 24, 31);
         x.kin(0, 1, true);
@@ -529,6 +566,7 @@ public final class ThoughtTest {
         crowd(x, 7, 2, 1);
         x.move(0, 9);
         crowd(x, 9, 3, 2);
+        crowd(Due.made(new int[] {1}, 0, 1, 0), 0, 2, 0);
         for (int bad : new int[] {-1, 3, MIN, MAX}) {
             DUE.is("crowd(" + bad + ")", x.crowd(bad), -1);
         }
