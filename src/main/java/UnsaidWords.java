@@ -662,13 +662,11 @@ public final class UnsaidWords {
             System.arraycopy(other.longs, 0, longs, 0, longs.length);
         }
 
-        boolean open() {
-            if (count >= MEANINGS_MOST) {
-                return false;
+        void open() {
+            if (count < MEANINGS_MOST) {
+                wordings[count] = 0;
+                count++;
             }
-            wordings[count] = 0;
-            count++;
-            return true;
         }
 
         /** A wording of the latest MEANING. */
@@ -821,9 +819,13 @@ public final class UnsaidWords {
             return without;
         }
 
+        /** One method, not one for each kind of cell: here the class's calls are deepest. */
         private int value(int from, int to, int[] facts) {
+            if (from < 0 || to > code.length) {
+                return 0;
+            }
             int top = 0;
-            for (int i = Math.max(0, from); i < to && i < code.length; i++) {
+            for (int i = from; i < to; i++) {
                 int cell = code[i];
                 if (cell < OPERATOR_CELL) {
                     int fact = cell - FACT_CELL;
@@ -832,35 +834,35 @@ public final class UnsaidWords {
                     }
                     stack[top] = fact < 0 ? cell : facts[fact];
                     top++;
-                } else if (cell == OPERATOR_CELL + NOT) {
-                    if (top < 1) {
-                        return 0;
-                    }
-                    stack[top - 1] = 1 - stack[top - 1];
-                } else {
-                    if (top < 2) {
-                        return 0;
-                    }
-                    top--;
-                    stack[top - 1] = joined(cell - OPERATOR_CELL, stack[top - 1], stack[top]);
+                    continue;
                 }
+                int operator = cell - OPERATOR_CELL;
+                if (top < (operator == NOT ? 1 : 2)) {
+                    return 0;
+                }
+                int right = stack[top - 1];
+                if (operator == NOT) {
+                    stack[top - 1] = 1 - right;
+                    continue;
+                }
+                top--;
+                int left = stack[top - 1];
+                int joined = 0;
+                switch (operator) {
+                    case '+': joined = left + right; break;
+                    case '-': joined = left - right; break;
+                    case '*': joined = left * right; break;
+                    case '/': joined = right == 0 ? 0 : left / right; break;
+                    case '<': joined = left < right ? 1 : 0; break;
+                    case '=': joined = left == right ? 1 : 0; break;
+                    case '>': joined = left > right ? 1 : 0; break;
+                    case AND: joined = left & right; break;
+                    case OR: joined = left | right; break;
+                    default: return 0;
+                }
+                stack[top - 1] = joined;
             }
             return top < 1 ? 0 : stack[0];
-        }
-
-        private static int joined(int operator, int left, int right) {
-            switch (operator) {
-                case '+': return left + right;
-                case '-': return left - right;
-                case '*': return left * right;
-                case '/': return right == 0 ? 0 : left / right;
-                case '<': return left < right ? 1 : 0;
-                case '=': return left == right ? 1 : 0;
-                case '>': return left > right ? 1 : 0;
-                case AND: return left & right;
-                case OR: return left | right;
-                default: return 0;
-            }
         }
     }
 
@@ -1260,18 +1262,20 @@ public final class UnsaidWords {
         private void cut(Tape tape) {
             count = 0;
             next = 0;
-            for (int from = 0; from < tape.length; from++) {
-                int sign = tape.at(from);
+            for (int i = 0; i < tape.length; i++) {
+                int sign = tape.at(i);
+                int before = tape.at(i - 1);
+                boolean isInside = isLetter(sign) && isLetter(before) || isDigit(sign) && isDigit(before);
+                if (sign == ' ' || sign == '\n' || isInside) {
+                    continue;
+                }
                 if (isLetter(sign)) {
-                    int to = endOfLetters(tape, from);
-                    addToken(keyword(tape, from, to), from, 0);
-                    from = to - 1;
+                    addToken(keyword(tape, i, endOfLetters(tape, i)), i, 0);
                 } else if (isDigit(sign)) {
-                    int to = endOfDigits(tape, from);
-                    addToken(to - from > DIGITS_MOST ? STRANGE : NUMBER, from, number(tape, from, to));
-                    from = to - 1;
-                } else if (sign != ' ' && sign != '\n') {
-                    addToken(isSign(sign) ? sign : STRANGE, from, 0);
+                    int to = endOfDigits(tape, i);
+                    addToken(to - i > DIGITS_MOST ? STRANGE : NUMBER, i, number(tape, i, to));
+                } else {
+                    addToken(isSign(sign) ? sign : STRANGE, i, 0);
                 }
             }
             addToken(END, tape.length, 0);
@@ -1352,14 +1356,14 @@ public final class UnsaidWords {
             return next < 0 || next >= count || next > TAPE_MOST ? END : kinds[next];
         }
 
-        private int value() {
-            return next < 0 || next >= count || next > TAPE_MOST ? 0 : values[next];
+        private int ofNext(int[] row) {
+            return next < 0 || next >= count || next >= row.length ? END : row[next];
         }
 
         /** Always false, so that a reader can end with it. */
         private boolean refuse(int why) {
             fault = why;
-            faultPlace = next < 0 || next >= count || next > TAPE_MOST ? 0 : places[next];
+            faultPlace = ofNext(places);
             return false;
         }
 
@@ -1375,7 +1379,7 @@ public final class UnsaidWords {
             if (kind() != NUMBER) {
                 return refuse(MISPLACED);
             }
-            taken = value();
+            taken = ofNext(values);
             if (taken < least || taken > most) {
                 return refuse(NOT_THERE);
             }
@@ -1566,10 +1570,11 @@ public final class UnsaidWords {
                 if (kind != NUMBER && (!isFact || times == '/')) {
                     return refuse(MISPLACED);
                 }
-                if (times == '/' && value() == 0) {
+                int value = ofNext(values);
+                if (times == '/' && value == 0) {
                     return refuse(NOT_THERE);
                 }
-                law.emit(isFact ? FACT_CELL + kind - FIRST_FACT : value());
+                law.emit(isFact ? FACT_CELL + kind - FIRST_FACT : value);
                 next++;
                 if (times != 0) {
                     law.emit(OPERATOR_CELL + times);
