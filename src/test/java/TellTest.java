@@ -466,5 +466,15 @@ public final class TellTest {
         fault(1, "keep word word;", 1, 10);
         fault(1, "keep 1\r;", 1, 6);
         fault(1, "keep1whennot1=1;", 1, 5);
+        fault(0, ";".repeat(400), 1, 0);
+        fault(0, "means 0;" + ")".repeat(392), 1, 8);
+        fault(1, "keep1" + "+1".repeat(197) + ";", 0, 1);
+        fault(1, "keep1" + "+1".repeat(197) + " ", 1, 400);
+        UnsaidWords x = Due.made(new int[] {1});
+        tell(x, 1, "keep1" + "+1".repeat(197) + ";");
+        DUE.is("a sum as long as the TAPE", x.of(0, 5), 198);
+        tell(x, 1, "keep9when(1=1or1=1and(1=1or1=1and(1=1or1=1and(1=1or1=1and(1=1or1=1and(1=1or1=1and"
+                + "(1=1or1=1and(1=1or1=1and1=1and 2-1*1=3-1*2or 0=1))))))));keep8;");
+        DUE.is("as much is open as can be", x.of(0, 5), 9);
     }
 }
