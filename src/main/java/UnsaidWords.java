@@ -454,12 +454,13 @@ public final class UnsaidWords {
     }
 
     public int talk(int word, int place) {
-        if (place != NONE && !World.isPlace(place)) {
-            return NONE;
-        }
         if (word == NONE) {
+            // Nothing is told then, so the place is not asked.
             now.talks.count = 0;
             return 0;
+        }
+        if (place != NONE && !World.isPlace(place)) {
+            return NONE;
         }
         if (!now.hasWord(word) || now.talks.count >= TALK_MOST) {
             return NONE;

@@ -1014,14 +1014,11 @@ final class PlainWords {
     }
 
     int talk(int word, int place) {
-        if (place != NONE && noPlace(place)) {
-            return NONE;
-        }
         if (word == NONE) {
             all.talk.clear();
             return 0;
         }
-        if (noWord(word) || all.talk.size() == 10) {
+        if (place != NONE && noPlace(place) || noWord(word) || all.talk.size() == 10) {
             return NONE;
         }
         all.talk.add(new int[] {word, place});

@@ -111,7 +111,7 @@ public final class RunsTest {
             case 38: call("round", below(people), some(10, 6), random.nextInt(2) * (10 + below(6)), 0, 0); break;
             case 39: if (isCheap()) call("quarrel", below(people), below(people), 1 + below(6), below(3), 0); break;
             case 40: case 41: call("talk", below(words), random.nextInt(2) == 0 ? -1 : below(3), 0, 0, 0); break;
-            case 42: if (random.nextInt(3) == 0) call("talk", -1, -1, 0, 0, 0); break;
+            case 42: if (random.nextInt(3) == 0) call("talk", -1, anything(), 0, 0, 0); break;
             case 43: case 44: call("spoke", random.nextInt(2), 0, 0, 0, 0); break;
             case 45: call("grasps", below(people), below(people), 0, 0, 0); break;
             case 46: call("circle", below(people), 0, 0, 0, 0); break;

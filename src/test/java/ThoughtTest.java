@@ -336,6 +336,12 @@ public final class ThoughtTest {
         DUE.is("all can have said nothing", x.spoke(true), 1);
         DUE.is("talk", x.talk(1, 9), 1);
         DUE.is("none is then", x.talk(-1, 0), 0);
+        for (int place : new int[] {499, 10, -2, MIN, MAX}) {
+            DUE.is("talk", x.talk(0, 9), 1);
+            DUE.is("none is then, the place is not asked", x.talk(-1, place), 0);
+            DUE.is("look(11)", x.look(11), 0);
+        }
+        DUE.is("none can be before a WORD is", new UnsaidWords().talk(-1, 499), 0);
     }
 
     private static void promise30() {
