@@ -1145,7 +1145,7 @@ public final class UnsaidWords {
                 if (hasLapsed(w)) {
                     continue;
                 }
-                being.unsaid[w]++;
+                being.unsaid[w] = Math.min(UNSAID_MOST, being.unsaid[w] + 1);
                 if (being.unsaid[w] >= lawFor(KEEP, w, 0)) {
                     lapse(w);
                 }

@@ -30,7 +30,7 @@ public final class LookTest {
                 DUE.is("of(" + w + ", " + what + ")", x.of(w, what), want[w][what]);
             }
         }
-        DUE.is("LAPSED at 10000: UNSAID is one more", lapsedLate(), 10000);
+        unsaidAtMost();
         for (int bad : new int[] {-1, 7, MIN, MAX}) {
             DUE.is("of(0, " + bad + ")", x.of(0, bad), -1);
         }
@@ -39,11 +39,22 @@ public final class LookTest {
         }
     }
 
-    private static int lapsedLate() {
-        UnsaidWords x = Due.made(new int[] {1});
-        x.set(2, 0, 9999);
-        x.days(1);
-        return x.of(0, 1);
+    /** Of WORDS around the most that UNSAID can be: their UNSAID behind a day, and what THE LAW reads of it. */
+    private static void unsaidAtMost() {
+        for (int had : new int[] {9997, 9998, 9999}) {
+            UnsaidWords x = Due.made(new int[] {1}, 0);
+            x.teach(0, 0);
+            x.set(2, 0, had);
+            Due.tell(x, 1, "keep 9999;");
+            DUE.is("goes(400, 0) from UNSAID " + had, x.goes(400, 0), 1);
+            DUE.is("of(0, 1) behind thought", x.of(0, 1), had);
+            DUE.is("days(1) from UNSAID " + had, x.days(1), had == 9997 ? 0 : 1);
+            DUE.is("of(0, 1) from UNSAID " + had, x.of(0, 1), had == 9997 ? 9998 : 9999);
+            Due.tell(x, 1, "tire 1 when unsaid<9999;tire 2 when unsaid=9999;tire 3;");
+            DUE.is("asks(0, 0, true) from UNSAID " + had, x.asks(0, 0, true), had == 9997 ? 1 : 2);
+            x.days(3);
+            DUE.is("of(0, 1), LAPSED", x.of(0, 1), 9999);
+        }
     }
 
     /** keep of a WORD whose facts are all different numbers. */

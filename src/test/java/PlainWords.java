@@ -366,7 +366,9 @@ final class PlainWords {
             if (word.lapsed) {
                 continue;
             }
-            word.unsaid++;
+            if (word.unsaid < 9999) {
+                word.unsaid++;
+            }
             if (word.unsaid >= law("keep", w, 0)) {
                 word.lapsed = true;
                 for (Person p : all.people) {
