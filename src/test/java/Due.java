@@ -21,7 +21,7 @@ final class Due {
         if (got != want) {
             wrong++;
             if (wrong <= WRONG_SHOWN) {
-                System.out.println(test + ", " + part + ": " + call + " answered " + got + ", due is " + want);
+                System.out.println(test + (part.isEmpty() ? "" : ", " + part) + ": " + call + " answered " + got + ", due is " + want);
             }
         }
     }
@@ -32,6 +32,10 @@ final class Due {
 
     boolean isWrong() {
         return wrong > 0;
+    }
+
+    int asked() {
+        return asked;
     }
 
     /** Ends the test: with exit code 1 if an answer was wrong, or none was asked for. */
@@ -97,5 +101,33 @@ final class Due {
         tell(x, 1, law + "keep 9999;");
         x.days(1);
         tell(x, 1, "");
+    }
+
+    /**
+     * All that can be looked at of what is, but THE BOOK's lines ahead of its last: held against
+     * itself behind a call that is refused. Small objects alone, for each look is a call.
+     */
+    static String all(UnsaidWords x) {
+        StringBuilder all = new StringBuilder();
+        for (int what = 0; what < 14; what++) {
+            all.append(x.look(what)).append(' ');
+        }
+        int words = x.look(0);
+        for (int w = 0; w < words; w++) {
+            for (int what = 1; what < 7; what++) {
+                all.append(x.of(w, what)).append(' ');
+            }
+        }
+        int people = x.look(1);
+        for (int p = 0; p < people; p++) {
+            for (int what = 0; what < 3; what++) {
+                all.append(x.who(p, what)).append(' ');
+            }
+        }
+        int last = x.look(5) - 1;
+        for (int what = 0; what < 4; what++) {
+            all.append(x.book(last, what)).append(' ');
+        }
+        return all.toString();
     }
 }
