@@ -186,6 +186,14 @@ final class EdgesOfDeeds {
         Due.teach(y, 1, 1, 0);
         due.is("not HEARD", y.say(0, 0), 0);
         due.is("has it not", y.who(2, 1), 0);
+        UnsaidWords z = Due.made(new int[] {1, 1, 1, 1}, 9, 9, 9, 9, 9);
+        Due.teach(z, 1, 2, 0, 12, 8);
+        Due.tell(z, 1, "hear 1;");
+        due.is("HEARD", z.say(4, 3), 1);
+        int[] want = {9, 10, 8, 12, 8};
+        for (int p = 0; p < 5; p++) {
+            due.is("TONGUE of PERSON " + p, z.who(p, 1), want[p]);
+        }
     }
 
     private static void lineByLine(Due due) {

@@ -594,6 +594,17 @@ final class EdgesOfPromises {
             due.is("no lines", x.text(k), 0);
             due.is("look(" + (7 + k) + ")", x.look(7 + k), 0);
         }
+        due.is("no THE LAW: keep", x.of(0, 5), 365);
+        due.is("no WALKS, no MEANINGS, no NEEDS", x.look(13) + x.misses(1), 0);
+        Due.tell(x, 1, "keep 5;hear 6;tire 7;hear 8;");
+        Due.tell(x, 1, "tire 9;");
+        due.is("nothing is left of the longer one: keep", x.of(0, 5), 365);
+        due.is("hear", x.asks(0, 0, false), 2);
+        due.is("tire", x.asks(0, 0, true), 9);
+        for (int i = 0; i < 12; i++) {
+            Due.tell(x, 1, "tire " + i + "+1".repeat(40) + ";");
+            due.is("told again and again", x.asks(0, 0, true), 40 + i);
+        }
     }
 
     private static void noSuchText(Due due) {

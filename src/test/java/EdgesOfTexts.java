@@ -269,6 +269,14 @@ final class EdgesOfTexts {
         when(due, "not 5=4 and 5=4", false);
         when(due, "not (5=4 and 5=4)", true);
         when(due, "(5=5 or 5=5) and 5=4", false);
+        when(due, "not 4<5", false);
+        when(due, "not 5<4", true);
+        when(due, "not 5>4", false);
+        when(due, "not 4>5", true);
+        when(due, "not (not 4<5)", true);
+        when(due, "4<5 and 5>4 and 5=5", true);
+        when(due, "5=5 and 4<5", true);
+        when(due, "5>5 or 4<5", true);
         fault(due, 1, "keep 1 when 5;", 1, 13);
         fault(due, 1, "keep 1 when 5<5<5;", 1, 15);
         fault(due, 1, "keep 1 when 5<;", 1, 14);
@@ -336,7 +344,8 @@ final class EdgesOfTexts {
             due.is("text", Due.tell(x, 1, "tire " + names[i] + ";"), 1);
             due.is("tire " + names[i], x.asks(5, 8, true), want[i]);
         }
-        for (String none : new String[] {"keep", "tire", "when", "not", "lapsed", "unsai", "words"}) {
+        for (String none : new String[] {"keep", "hear", "tire", "when", "not", "and", "or", "means", "on", "goes", "says", "rests",
+            "need", "by", "worth", "lapsed", "unsai", "words", "ay", "k", "a"}) {
             fault(due, 1, "tire " + none + ";", 1, 5);
         }
     }
@@ -431,6 +440,15 @@ final class EdgesOfTexts {
         fault(due, 3, "on 0 0 rests;", 1, 0);
         fault(due, 3, "need 0 by 0 or 1;", 1, 12);
         good(due, 1, "keep1when not1=1or(2=2)and word<long;", 1);
+        for (char letter = 'A'; letter <= 'Z'; letter++) {
+            fault(due, 0, "means" + letter + " 0;", 1, 0);
+            fault(due, 0, letter + "means 0;", 1, 0);
+            fault(due, 0, "means" + (char) (letter + 32) + " 0;", 1, 0);
+            fault(due, 0, (char) (letter + 32) + "means 0;", 1, 0);
+        }
+        for (char other : new char[] {'@', '[', '`', '{', '_', '\'', 127, 128, 192, 223, 224, 233, 255}) {
+            fault(due, 0, "means" + other + " 0;", 1, 5);
+        }
     }
 
     private static void digits(Due due) {
@@ -813,6 +831,13 @@ final class EdgesOfTexts {
         due.is("not enough at that PLACE", x.say(0, 0), -1);
         x.set(1, 0, 9);
         due.is("enough", x.say(0, 0), 0);
+        Due.tell(x, 1, "keep at+1;");
+        x.set(2, 0, 0);
+        due.is("keep at the end of a DAY", x.days(1), 2);
+        UnsaidWords y = Due.made(new int[] {1}, 9);
+        Due.tell(y, 1, "keep 2-at;");
+        due.is("PLACE 0, not the first, nor where somebody is", y.days(1), 0);
+        due.is("a day later", y.days(1), 1);
     }
 
     private static void factDay(Due due) {

@@ -101,6 +101,18 @@ final class EdgesOfThought {
         due.is("nobody chats in misses", y.misses(1), 0);
         y.days(2);
         due.is("he does in days, and keeps WORD 0", y.look(4), 2);
+        int state = 0;
+        while (((state * 1664525 + 1013904223) >>> 8) % 1000 != 0) {
+            state++;
+        }
+        UnsaidWords z = Due.made(new int[] {1}, 0);
+        z.teach(0, 0);
+        Due.tell(z, 1, "keep 2;hear 0;");
+        z.set(2, 0, 5);
+        z.set(0, 0, 1);
+        z.state(state);
+        due.is("nobody chats, though the DRAW would be 0", z.goes(1, 0), 1);
+        due.is("he does in days", z.days(1), 0);
     }
 
     private static void goes(Due due) {
@@ -128,6 +140,48 @@ final class EdgesOfThought {
         due.is("the first", x.goes(1, 1), 1);
         due.is("UNSAID 1 and 398 days more", x.goes(398, 0), 2);
         due.is("and 399", x.goes(399, 0), 3);
+        goesByAll(due);
+        goesAtTheLastDay(due);
+    }
+
+    /** The WORD LAPSES on DAY 9999 itself; of DAYS behind it the document tells nothing (NOTES.md). */
+    private static void goesAtTheLastDay(Due due) {
+        UnsaidWords x = Due.made(new int[] {1}, 0);
+        Due.tell(x, 1, "keep 9999;");
+        for (int i = 0; i < 166; i++) {
+            x.days(60);
+        }
+        x.days(37);
+        due.is("goes(1, 0) on DAY 9997", x.goes(1, 0), 0);
+        due.is("goes(400, 2)", x.goes(400, 2), 9998);
+        x.set(2, 0, 9997);
+        x.days(2);
+        x.carve(0);
+        x.set(2, 0, 9998);
+        due.is("goes(1, 0) on DAY 9999", x.goes(1, 0), 1);
+        due.is("goes(1, 1)", x.goes(1, 1), 0);
+        due.is("goes(1, 2)", x.goes(1, 2), 9999);
+        due.is("goes(400, 2)", x.goes(400, 2), 9999);
+        due.is("nothing of it stays", x.look(2), 9999);
+    }
+
+    /** By all that is and was told: WALKS and what comes of them, LONG, KIN, AT, BREATH, THE LAW. */
+    private static void goesByAll(Due due) {
+        UnsaidWords x = Due.made(new int[] {9, 6, 7}, 0, 0, 3);
+        Due.teach(x, 3, 0, 3);
+        x.kin(0, 1, true);
+        Due.tell(x, 1, "keep long;hear 1;");
+        due.is("by LONG", x.goes(20, 1), 1);
+        due.is("its DAY", x.goes(20, 2), 5);
+        Due.tell(x, 2, "on 1 0 goes 3;on 4 0 says 0;");
+        due.is("UNSAID 4 halved, by a KIN one that is HEARD", x.goes(20, 1), 2);
+        due.is("its DAY", x.goes(20, 2), 6);
+        due.is("then", x.goes(7, 0), 1);
+        due.is("then", x.goes(8, 0), 2);
+        x.set(1, 0, 0);
+        due.is("BREATH 20 is enough", x.goes(20, 1), 2);
+        Due.tell(x, 2, "on 1 0 goes 3;on 1 0 says 0;");
+        due.is("BREATH 5 is not enough for LONG 9", x.goes(20, 1), 1);
     }
 
     private static void missesOfDays(Due due) {
@@ -653,6 +707,8 @@ final class EdgesOfThought {
         verse(due, y, 280, 16383);
         Due.lapse(y, 64);
         verse(due, y, 260, 16319);
+        verse(due, Due.made(new int[] {1}), 1, 1);
+        verse(due, Due.made(new int[] {1, 1}), 2, 3);
     }
 
     private static void verseOfSeveral(Due due) {
@@ -736,6 +792,11 @@ final class EdgesOfThought {
         crowd(due, x, 3, 2, 4);
         Due.lapse(x, 1);
         crowd(due, x, 3, 2, 3);
+        UnsaidWords y = Due.made(new int[] {1, 1, 1, 1}, 3, 3, 3);
+        Due.teach(y, 9, 15, 11);
+        crowd(due, y, 3, 3, 2);
+        y.move(0, 4);
+        crowd(due, y, 3, 2, 3);
     }
 
     private static void silence(Due due, UnsaidWords x, int word, int left) {
@@ -787,54 +848,67 @@ final class EdgesOfThought {
     }
 
     private static void undo(Due due) {
+        undoSayings(due);
+        undoDays(due);
+        UnsaidWords x = Due.made(new int[] {1}, 0, 0);
+        x.teach(0, 0);
+        x.set(0, 0, 1000);
+        x.state(99);
+        String was = Due.all(x);
+        x.days(2);
+        due.is("it drew", x.look(6) != 99, true);
+        due.is("two DAYS", x.look(12), 2);
+        x.undo();
+        due.is("the latest DAY", x.look(2), 1);
+        x.undo();
+        due.is("STATE and THE BOOK go back", Due.all(x).equals(was), true);
+        due.is("a refused one is none", x.say(0, 5), -1);
+        due.is("undo", x.undo(), false);
+    }
+
+    /** Two WORDS that are KIN, in the TONGUES of three PEOPLE at one PLACE. */
+    private static UnsaidWords three() {
         UnsaidWords x = Due.made(new int[] {1, 1}, 0, 0, 0);
         Due.teach(x, 3, 3, 3);
         x.kin(0, 1, true);
         x.set(2, 0, 8);
         x.set(2, 1, 9);
-        x.set(0, 0, 1000);
-        Due.tell(x, 1, "keep 9 when word=1 and said<1;keep 99;");
-        String[] was = new String[6];
-        was[0] = Due.all(x);
+        return x;
+    }
+
+    private static void undoSayings(Due due) {
+        UnsaidWords x = three();
+        String first = Due.all(x);
         due.is("a SAYING, HEARD", x.say(0, 0), 1);
-        was[1] = Due.all(x);
-        due.is("a SAYING, not HEARD", x.move(2, 5), true);
-        was[2] = Due.all(x);
-        due.is("a SAYING", x.say(2, 1), 0);
-        x.undo();
-        due.is("it goes back", Due.all(x).equals(was[2]), true);
-        x.undo();
-        due.is("the MOVE goes back", Due.all(x).equals(was[1]), true);
-        x.undo();
-        due.is("the SAYING goes back", Due.all(x).equals(was[0]), true);
+        String second = Due.all(x);
+        due.is("a MOVE", x.move(2, 5), true);
+        String third = Due.all(x);
+        due.is("a SAYING, not HEARD", x.say(2, 1), 0);
+        due.is("undo", x.undo(), true);
+        due.is("the SAYING goes back", Due.all(x).equals(third), true);
+        due.is("undo", x.undo(), true);
+        due.is("the MOVE goes back", Due.all(x).equals(second), true);
+        due.is("undo", x.undo(), true);
+        due.is("the SAYING, HEARD, goes back", Due.all(x).equals(first), true);
         due.is("nothing more", x.undo(), false);
-        x.set(0, 0, 0);
-        was[0] = Due.all(x);
+    }
+
+    private static void undoDays(Due due) {
+        UnsaidWords x = three();
+        Due.tell(x, 1, "keep 9 when word=1;keep 99;");
+        String first = Due.all(x);
         due.is("a DAY", x.days(1), 1);
-        was[1] = Due.all(x);
-        x.carve(1);
-        was[2] = Due.all(x);
-        x.teach(0, 1);
-        x.undo();
-        due.is("the TEACHING goes back", Due.all(x).equals(was[2]), true);
-        x.undo();
-        due.is("the CARVING goes back", Due.all(x).equals(was[1]), true);
-        x.undo();
-        due.is("the DAY goes back", Due.all(x).equals(was[0]), true);
-        UnsaidWords y = Due.made(new int[] {1}, 0, 0);
-        y.teach(0, 0);
-        y.set(0, 0, 1000);
-        y.state(99);
-        was[0] = Due.all(y);
-        y.days(2);
-        due.is("it drew", y.look(6) != 99, true);
-        due.is("two DAYS", y.look(12), 2);
-        y.undo();
-        due.is("the latest DAY", y.look(2), 1);
-        y.undo();
-        due.is("STATE and THE BOOK go back", Due.all(y).equals(was[0]), true);
-        due.is("a refused one is none", y.say(0, 5), -1);
-        due.is("undo", y.undo(), false);
+        String second = Due.all(x);
+        due.is("a CARVING", x.carve(1), true);
+        String third = Due.all(x);
+        due.is("a TEACHING", x.teach(0, 1), true);
+        due.is("undo", x.undo(), true);
+        due.is("the TEACHING goes back", Due.all(x).equals(third), true);
+        due.is("undo", x.undo(), true);
+        due.is("the CARVING goes back", Due.all(x).equals(second), true);
+        due.is("undo", x.undo(), true);
+        due.is("the DAY goes back", Due.all(x).equals(first), true);
+        due.is("nothing more", x.undo(), false);
     }
 
     private static void undoMost(Due due) {
@@ -909,6 +983,7 @@ final class EdgesOfThought {
         Due.teach(x, 7, 3, 1);
         x.kin(0, 1, true);
         x.miles(0, 1, 77);
+        x.miles(9, 8, 66);
         x.set(0, 0, 400);
         x.set(1, 1, 33);
         x.set(2, 2, 44);
@@ -930,6 +1005,7 @@ final class EdgesOfThought {
         x.teach(2, 2);
         x.kin(0, 1, false);
         x.miles(0, 1, 1);
+        x.miles(8, 9, 1);
         x.set(0, 0, 900);
         x.set(1, 1, 1);
         x.set(2, 0, 1);
@@ -946,7 +1022,7 @@ final class EdgesOfThought {
     /** What is told of the image's world but look(12). */
     private static String told(UnsaidWords x) {
         StringBuilder told = new StringBuilder(Due.all(x).replaceFirst("^((\\S+ ){12})\\S+ ", "$1"));
-        int[] more = {x.round(0, 2, 0), x.spoke(true), x.wording(0, 1), x.goes(2, 2), x.misses(0), x.misses(1), x.asks(0, 0, false)};
+        int[] more = {x.round(0, 2, 0), x.round(0, 768, 0), x.spoke(true), x.wording(0, 1), x.goes(2, 2), x.misses(0), x.misses(1), x.asks(0, 0, false)};
         for (int one : more) {
             told.append(one).append(' ');
         }
