@@ -24,12 +24,15 @@ public final class RunsTest {
     private final int wordsMost;
     /** Of a hundred arguments so many are wild. */
     private final int wild;
+    /** Some runs are where DAY is near its most. */
+    private final boolean isLate;
 
     private RunsTest(Due due, int seed) {
         this.due = due;
         random = new Random(seed);
         wordsMost = seed % 10 == 0 ? 14 : 3 + random.nextInt(5);
         wild = seed % 3 == 0 ? 0 : seed % 3 == 1 ? 3 : 15;
+        isLate = seed % 50 == 25;
     }
 
     public static void main(String[] args) {
@@ -69,6 +72,9 @@ public final class RunsTest {
         }
         for (int k = 0; k < 4; k++) {
             tell(k);
+        }
+        for (int i = isLate ? 158 + random.nextInt(9) : 0; i > 0; i--) {
+            call("days", 60, 0, 0, 0, 0);
         }
     }
 
